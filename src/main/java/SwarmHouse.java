@@ -148,7 +148,6 @@ public final class SwarmHouse {
             return false;
         }
         field.mass = m;
-        swarm.fresh = false;
         return true;
     }
 
@@ -1252,7 +1251,8 @@ public final class SwarmHouse {
         int length = 60;
         int g = 4;
         int r = 1000;
-        boolean fresh = true;
+        boolean fresh = false;
+        private int massOfRun = 0;
 
         Swarm(Field field) {
             this.field = field;
@@ -1291,10 +1291,11 @@ public final class SwarmHouse {
         }
 
         void refresh() {
-            if (fresh) {
+            if (fresh && massOfRun == field.mass) {
                 return;
             }
             fresh = true;
+            massOfRun = field.mass;
             for (int i = 0; i < size && i < orbits.length; i++) {
                 Orbit o = orbits[i];
                 if (o != null) {
@@ -1356,6 +1357,8 @@ public final class SwarmHouse {
         private final int[] weights = new int[MOST_ORBITS];
         private final int[] users = new int[MOST_ORBITS];
         private int used;
+        private final int[][] lights = new int[MOST_NOTES][MOST_ORBITS];
+        private final int[][] goings = new int[MOST_NOTES][MOST_ORBITS];
         private final boolean[] together = new boolean[1 << MOST_NOTES];
         int portions = 6;
 
@@ -1384,16 +1387,11 @@ public final class SwarmHouse {
         }
 
         int lightOf(int cell) {
-            return summed(cell, false);
-        }
-
-        /** The sum of WEIGHT times SHARE, or times GOING. */
-        private int summed(int cell, boolean going) {
             int sum = 0;
             for (int i = 0; i < used && i < MOST_ORBITS; i++) {
                 Orbit o = swarm.latest(users[i]);
                 if (o != null && cell >= 0 && cell < MOST_CELLS) {
-                    sum += weightOf(users[i]) * (going ? o.goings[cell] : o.shares[cell]);
+                    sum += weightOf(users[i]) * o.shares[cell];
                 }
             }
             return sum;
@@ -1408,6 +1406,7 @@ public final class SwarmHouse {
                 if (o != null && o.used) {
                     users[used] = i;
                     used++;
+                    gather(o, i);
                 }
             }
             if (used < 1) {
@@ -1415,6 +1414,17 @@ public final class SwarmHouse {
             }
             weights[users[0]] = portions;
             return true;
+        }
+
+        /** What an ORBIT gives to each SIGHT, laid out once, as thousands of WEIGHTS may ask for it. */
+        private void gather(Orbit o, int orbit) {
+            for (int i = 0; i < MOST_NOTES; i++) {
+                int cell = notes.cells[i];
+                if (notes.isSight(i) && cell >= 0 && cell < MOST_CELLS) {
+                    lights[i][orbit] = o.shares[cell];
+                    goings[i][orbit] = o.goings[cell];
+                }
+            }
         }
 
         /** To the next WEIGHTS: the last one that can gives one away, and all behind it goes to the one behind it. */
@@ -1447,12 +1457,19 @@ public final class SwarmHouse {
             if (sight < 0 || sight >= MOST_NOTES) {
                 return false;
             }
-            int cell = notes.cells[sight];
-            long light = summed(cell, false);
+            long light = summed(lights[sight]);
             boolean going = notes.kinds[sight] == GOING;
-            long seen = going ? summed(cell, true) : 1000 * light;
+            long seen = going ? summed(goings[sight]) : 1000 * light;
             long scale = going ? light : (long) portions * swarm.length;
             return seen >= notes.lows[sight] * scale && seen <= notes.highs[sight] * scale;
+        }
+
+        private int summed(int[] given) {
+            int sum = 0;
+            for (int i = 0; i < used && i < MOST_ORBITS; i++) {
+                sum += weights[users[i]] * given[users[i]];
+            }
+            return sum;
         }
 
         /** QUARREL as bits; 0 if there are FITS or no ORBIT is USED. */
@@ -1543,7 +1560,6 @@ public final class SwarmHouse {
             int before = field.mass;
             for (int i = 0; i < size && i < MOST_MODELS; i++) {
                 field.mass = massOf(i);
-                swarm.fresh = false;
                 swarm.refresh();
                 if (fits.first()) {
                     kept |= 1 << i;
@@ -1551,7 +1567,6 @@ public final class SwarmHouse {
                 }
             }
             field.mass = before;
-            swarm.fresh = false;
             findTwins();
         }
 

@@ -114,6 +114,8 @@ public final class PromisesTest {
     fault("halo 1...2 3;", 1, 8);
     fault("halo 1. .2 3;", 1, 6);
     fault("disc 1..2 3;", 1, 6);
+    fault("halo 1(2 3;", 1, 6);
+    fault("use ..1);", 1, 4);
     fault("heap - - 1 2 3 4;", 1, 7);
     fault("heap - 1 -  2 3 4;", 0, -1);
     fault("heap 10000 0 1 1;", 2, 5);
@@ -321,6 +323,9 @@ public final class PromisesTest {
     told(h, 0, 20, 10000, 42400, 1, 0, 0, 1, 1);
     h.orbit(0, 0, -1, 1);
     told(h, 1, 20, 0, 800, 1, 2, 0, 0, 1);
+    h.length(21);
+    due("gone anew from the middle", h.told(1, 3), 1);
+    h.length(20);
     h.orbit(-5, -5, 1, 1);
     told(h, 2, 20, 0, 450, 0, 2, 0, 1, 1);
     h.orbit(9999, 0, 999, 0);
@@ -359,6 +364,16 @@ public final class PromisesTest {
     due("a BOX", box.told(0, 4), 1);
     due("DRIFT", box.told(0, 5), most - least);
     due("DRIFT is above 0", most > least, true);
+    SwarmHouse rising = with("heap 0 5000 5010 1;");
+    rising.length(10);
+    rising.orbit(10, 0, 0, 0);
+    due("SPIN 0 at first and above 0 then is a BOX", rising.told(0, 4), 1);
+    due("its DRIFT", rising.told(0, 5), 10 * rising.at(0, 10, 3));
+    SwarmHouse small = new SwarmHouse();
+    small.orbit(1, 0, 0, 1);
+    small.orbit(1, 0, 0, -1);
+    due("SPIN 1", small.told(0, 4), 0);
+    due("SPIN -1", small.told(1, 4), 0);
     SwarmHouse ring = with("halo 961 1;");
     ring.length(10);
     ring.orbit(30, 0, 0, 0);
@@ -407,6 +422,7 @@ public final class PromisesTest {
     use("1 * near = near", 1);
     use("0 * near = 0", 1);
     use("10000 * 10000 * 10000 * 1000", 1);
+    use("10000 * 10000 * 10000 * 1000 + 0", 1);
     use("10000 * 10000 * 10000 * 1000 + 1", 0);
     use("0 - 10000 * 10000 * 10000 * 1000 - 1", 0);
     use("0 - 10000 * 10000 * 10000 * 1000", 1);
@@ -484,6 +500,21 @@ public final class PromisesTest {
     due("no RETURNS", h.alike(5, 5), false);
     due("none such", h.alike(0, 6), false);
     due("none such", h.alike(-1, 0), false);
+    SwarmHouse half = with("halo 57003 17;");
+    half.length(40);
+    half.orbit(-116, -35, 19, -14);
+    half.orbit(61, 179, 8, 18);
+    // RETURNS 250, 62 and 98
+    due("RETURNS of the first", half.back(0, 0) == 250 && half.back(0, 1) == 62 && half.told(0, 6) == 2, true);
+    due("RETURNS of the other", half.back(1, 0) == 98 && half.told(1, 6) == 1, true);
+    due("half of the one, all of the other", half.alike(0, 1), true);
+    SwarmHouse less = with("halo 37180 242;");
+    less.length(40);
+    less.orbit(-108, 162, 9, -6);
+    less.orbit(114, 90, 3, 19);
+    // RETURNS -42, -6, -22 and 72, 37, 34: only -6 of the first is near one
+    due("one of three", less.alike(0, 1), false);
+    due("and the other way", less.alike(1, 0), false);
   }
 
   private static void tunes() {
@@ -502,6 +533,10 @@ public final class PromisesTest {
       due("5 to 2", h.tune(orbit, 5, 2), false);
       due("9 to 9", h.tune(orbit, 9, 9), true);
     }
+    tell(h, "bar 0 1 1;");
+    due("with T 1: 2 from 10", h.tune(0, 1, 1), false);
+    due("with T 1: 18 from 20", h.tune(0, 2, 9), true);
+    tell(h, "bar 0 1 5; bar 0 1 50;");
     due("p 0", h.tune(0, 0, 1), false);
     due("p 10", h.tune(0, 10, 9), false);
     due("q 0", h.tune(0, 1, 0), false);
@@ -767,6 +802,29 @@ public final class PromisesTest {
     due("the greater one", h.models(961, 1), 2);
     due("the least mass", h.models(961, 2), 961);
     due("without a SPAN", new SwarmHouse().models(5, 0), 1);
+    anew();
+  }
+
+  /** What was found by a pace is not held against what changes then. */
+  private static void anew() {
+    SwarmHouse h = with("halo 0..961 1;");
+    h.length(10);
+    h.cells(2, 1000);
+    h.portions(1);
+    h.orbit(30, 0, 0, 0);
+    h.orbit(-500, -500, 0, 0);
+    h.sight(0, 0, 1, 999);
+    due("one PORTION can't be in both", h.models(961, 1), 0);
+    h.portions(2);
+    due("two can", h.models(961, 1), 3);
+    h.length(11);
+    due("another LENGTH", h.models(961, 7), 2);
+    h.cells(2, 29);
+    due("other CELLS", h.models(961, 1), 0);
+    h.orbit(-9, -9, 0, 0);
+    due("another ORBIT", h.models(961, 1) & 1, 1);
+    tell(h, "halo 0..10 1;");
+    due("another FIELD", h.models(961, 0), 1);
   }
 
   private static void streams() {
@@ -819,6 +877,8 @@ public final class PromisesTest {
     due("by 962", h.bent(962, 4), 0);
     due("pace 0", h.bent(0, 4), -1);
     due("pace 100000", h.bent(100000, 4), -1);
+    due("pace 99999", h.bent(99999, 4), 0);
+    due("all 64 unlike", h.bent(99999, ~8L), 0);
     due("THE MASS stays", h.count(3), 0);
     due("and the TRAIL", h.trail(), 8);
   }

@@ -92,7 +92,7 @@ public final class SwarmHouse {
     private final byte[] tape = new byte[MOST_TAPE];
     private int taped = 0;
     private final Field field = new Field();
-    private final Reader reader = new Reader(tape, field);
+    private final Reader reader = new Reader(tape);
     private final Star star = new Star();
     private boolean starThere = false;
     private final Swarm swarm = new Swarm(field);
@@ -131,8 +131,13 @@ public final class SwarmHouse {
         }
         reader.read(n);
         taped = 0;
+        // A TEXT with a FAULT is no FIELD, so the one before it stays.
+        if (reader.fault != 0) {
+            return NONE;
+        }
+        field.take(reader.draft);
         forgetOrbits();
-        return reader.fault == 0 ? field.size : NONE;
+        return field.size;
     }
 
     public int fault(int what) {
@@ -559,10 +564,9 @@ public final class SwarmHouse {
 
     /** THE FIELD: its PARTS, THE MASS in its SPAN, and its use. */
     private static final class Field {
-        private final Part[] parts = new Part[MOST_PARTS];
-        final Rule rule = new Rule();
+        private Part[] parts = new Part[MOST_PARTS];
+        Rule rule = new Rule();
         int size;
-        boolean spanTold;
         int first;
         int last;
         int mass;
@@ -577,11 +581,25 @@ public final class SwarmHouse {
 
         void clear() {
             size = 0;
-            spanTold = false;
             first = 0;
             last = 0;
             mass = 0;
             rule.clear();
+        }
+
+        /** Becomes what the other one is; the other one is empty then, and has the rows of this one. */
+        void take(Field other) {
+            Part[] oldParts = parts;
+            Rule oldRule = rule;
+            parts = other.parts;
+            rule = other.rule;
+            size = other.size;
+            first = other.first;
+            last = other.last;
+            mass = other.mass;
+            other.parts = oldParts;
+            other.rule = oldRule;
+            other.clear();
         }
 
         /** A new PART of a kind; null if there is no room. */
@@ -598,7 +616,6 @@ public final class SwarmHouse {
         }
 
         void setSpan(int low, int high) {
-            spanTold = true;
             first = low;
             last = high;
             mass = low;
@@ -726,10 +743,12 @@ public final class SwarmHouse {
         }
     }
 
-    /** Reads a TEXT into THE FIELD; it looks at one TOKEN at a time, so the first FAULT met is the first along the text. */
+    /** Reads a TEXT into a draft; it looks at one TOKEN at a time, so the first FAULT met is the first along the text. */
     private static final class Reader {
         private final byte[] text;
-        private final Field field;
+        /** What was read last; it is whole only without a FAULT. */
+        final Field draft = new Field();
+        private boolean spanTold;
         private int size;
         private int at;
         private int behind;
@@ -740,9 +759,8 @@ public final class SwarmHouse {
         int fault = 0;
         int place = NONE;
 
-        Reader(byte[] text, Field field) {
+        Reader(byte[] text) {
             this.text = text;
-            this.field = field;
         }
 
         void read(int n) {
@@ -750,7 +768,8 @@ public final class SwarmHouse {
             behind = 0;
             fault = 0;
             place = NONE;
-            field.clear();
+            spanTold = false;
+            draft.clear();
             advance();
             for (int i = 0; i <= size && fault == 0 && token != END; i++) {
                 boolean isPart = token >= HEAP && token <= GUEST;
@@ -759,14 +778,10 @@ public final class SwarmHouse {
                     expect(STOP);
                 }
             }
-            // A TEXT with a FAULT is no FIELD, and the one before it is no longer the latest.
-            if (fault != 0) {
-                field.clear();
-            }
         }
 
         private boolean part(int kind) {
-            Part p = field.addPart(kind);
+            Part p = draft.addPart(kind);
             if (p == null) {
                 return wrong(FAULT_MUCH);
             }
@@ -813,7 +828,7 @@ public final class SwarmHouse {
         }
 
         private boolean span(Part p) {
-            if (field.spanTold) {
+            if (spanTold) {
                 return wrong(FAULT_SECOND);
             }
             advance();
@@ -821,7 +836,8 @@ public final class SwarmHouse {
                 return false;
             }
             p.spans = true;
-            field.setSpan(p.m, taken);
+            spanTold = true;
+            draft.setSpan(p.m, taken);
             return true;
         }
 
@@ -858,10 +874,10 @@ public final class SwarmHouse {
         }
 
         private boolean use() {
-            if (field.rule.told) {
+            if (draft.rule.told) {
                 return wrong(FAULT_SECOND);
             }
-            field.rule.told = true;
+            draft.rule.told = true;
             advance();
             return either(0);
         }
@@ -870,7 +886,7 @@ public final class SwarmHouse {
             boolean fine = both(depth);
             for (int i = 0; i < MOST_KNOTS && fine && token == OR; i++) {
                 fine = knot() && both(depth);
-                field.rule.put(OR, 0);
+                draft.rule.put(OR, 0);
             }
             return fine;
         }
@@ -879,7 +895,7 @@ public final class SwarmHouse {
             boolean fine = denied(depth);
             for (int i = 0; i < MOST_KNOTS && fine && token == AND; i++) {
                 fine = knot() && denied(depth);
-                field.rule.put(AND, 0);
+                draft.rule.put(AND, 0);
             }
             return fine;
         }
@@ -894,7 +910,7 @@ public final class SwarmHouse {
             }
             boolean fine = compared(depth);
             for (int i = 0; i < nots; i++) {
-                field.rule.put(NOT, 0);
+                draft.rule.put(NOT, 0);
             }
             return fine;
         }
@@ -908,7 +924,7 @@ public final class SwarmHouse {
                 return true;
             }
             boolean fine = knot() && sum(depth);
-            field.rule.put(sign, 0);
+            draft.rule.put(sign, 0);
             return fine;
         }
 
@@ -917,7 +933,7 @@ public final class SwarmHouse {
             for (int i = 0; i < MOST_KNOTS && fine && (token == PLUS || token == MINUS); i++) {
                 int sign = token;
                 fine = knot() && product(depth);
-                field.rule.put(sign, 0);
+                draft.rule.put(sign, 0);
             }
             return fine;
         }
@@ -927,7 +943,7 @@ public final class SwarmHouse {
             for (int i = 0; i < MOST_KNOTS && fine && (token == TIMES || token == OVER); i++) {
                 int sign = token;
                 fine = knot() && single(depth);
-                field.rule.put(sign, 0);
+                draft.rule.put(sign, 0);
             }
             return fine;
         }
@@ -947,16 +963,16 @@ public final class SwarmHouse {
             if (token == NUMBER && value > MOST_NUMBER) {
                 return wrong(FAULT_MUCH);
             }
-            field.rule.put(token, value);
+            draft.rule.put(token, value);
             return knot();
         }
 
         /** Counts the TOKEN as a KNOT and goes on behind it. */
         private boolean knot() {
-            if (field.rule.knots >= MOST_KNOTS) {
+            if (draft.rule.knots >= MOST_KNOTS) {
                 return wrong(FAULT_MUCH);
             }
-            field.rule.knots++;
+            draft.rule.knots++;
             advance();
             return true;
         }

@@ -82,12 +82,6 @@ final class PlainHouse {
     if (n < 0 || n > tape.length()) return -2;
     String text = tape.substring(0, n);
     tape = new StringBuilder();
-    parts = List.of();
-    use = null;
-    knots = 0;
-    first = 0;
-    last = 0;
-    mass = 0;
     fault = 0;
     faultPlace = NONE;
     try {
@@ -95,7 +89,9 @@ final class PlainHouse {
       parts = newParts;
       use = e;
       knots = newKnots;
-      if (newSpan != null) { first = newSpan[0]; last = newSpan[1]; mass = first; }
+      first = newSpan == null ? 0 : newSpan[0];
+      last = newSpan == null ? 0 : newSpan[1];
+      mass = first;
       return parts.size();
     } catch (Fault f) {
       fault = f.kind;

@@ -82,11 +82,54 @@ public final class PromisesTest {
     due("SPAN without such a halo", h.count(5), 0);
     due("a FAULT", tell(h, "disc 1;"), -1);
     due("the tape is empty behind a FAULT", h.field(1), -2);
-    due("no PARTS behind a FAULT", h.count(0), 0);
+    due("the PARTS stay behind a FAULT", h.count(0), 1);
     due("all kinds", tell(h, "heap -1 2 3 4;disc 1 2;halo 1 2;bar 1 2 3;guest 1 -2 -3 4 5 6;"), 5);
     due("without blanks", tell(h, "heap1-1 2 3;halo5..5 1;"), 2);
     due("eight PARTS", tell(h, "disc 1 1;".repeat(8)), 8);
     due("the limits", tell(h, "heap 9999 -9999 99999 9999;guest 0 0 99 -99 0 1;bar 0 1 99;bar 0 1 1;"), 4);
+  }
+
+  /** A TEXT with a FAULT leaves THE FIELD as it was, also if much of it was read before its FAULT. */
+  private static void fieldStays() {
+    promise = 3;
+    for (String bad : new String[] {"?", "disc 9 9;", "halo 5..6 1; use 0; guest 0 0 0 0 9 9", "use 0; bar 9 9 9; use 1;"}) {
+      SwarmHouse h = with("heap 0 0 100 1; halo 10..90 4; bar 0 1 7; use far < 20;");
+      h.length(10);
+      h.orbit(3, 0, 0, 0);
+      h.orbit(300, 0, 0, 0);
+      h.stream(0, 1, 0, 0, 0, 0, 0, 0, 2, 1);
+      h.mass(70);
+      long[] before = shown(h);
+      due("FAULT of " + bad, tell(h, bad + "!"), -1);
+      long[] behind = shown(h);
+      for (int i = 0; i < before.length; i++) due("answer " + i + " behind " + bad, behind[i], before[i]);
+      due("THE MASS behind " + bad, h.count(3), 70);
+      due("py behind " + bad, h.pull(0, 1, 0, 1), -50 - 2);
+      due("the FAULT behind " + bad, h.fault(0) != 0, true);
+      due("a SPAN's mass behind " + bad, h.mass(90), true);
+      due("a mass beyond it behind " + bad, h.mass(91), false);
+      due("a new FIELD behind " + bad, tell(h, "disc 4 1;"), 1);
+      due("no FAULT now", h.fault(0), 0);
+      due("no place now", h.fault(1), -1);
+      due("the old PARTS are gone", h.pull(0, 1, 0, 1), -4);
+      due("the old SPAN is gone", h.count(5), 0);
+      due("the old use is gone", h.count(6), 0);
+      due("an empty FIELD has no PARTS", tell(h, ""), 0);
+      due("no PULL of it", h.pull(0, 1, 0, 1), 0);
+    }
+    SwarmHouse fresh = new SwarmHouse();
+    due("a FAULT at first", tell(fresh, "disc 9 9; disc"), -1);
+    due("no PARTS then", fresh.count(0), 0);
+    due("no PULL then", fresh.pull(0, 9, 0, 1), 0);
+  }
+
+  /** What shows THE FIELD, its PARTS, its use, THE MASS and its SPAN. */
+  private static long[] shown(SwarmHouse h) {
+    return new long[] {
+      h.count(0), h.count(3), h.count(4), h.count(5), h.count(6), h.pull(5, 5, 8, 0), h.pull(5, 5, 8, 3), h.pull(5, 5, 8, 5),
+      h.told(0, 7), h.told(1, 7), h.told(0, 2), h.at(1, 10, 0), h.tune(0, 1, 1) ? 1 : 0, h.tune(0, 9, 1) ? 1 : 0, h.fits(0),
+      h.models(40, 0), h.models(40, 1), h.models(40, 3), h.trail(), h.bent(40, 0)
+    };
   }
 
   private static void fault(String text, int kind, int place) {
@@ -903,6 +946,7 @@ public final class PromisesTest {
     newObject();
     feeding();
     fields();
+    fieldStays();
     faults();
     masses();
     pulls();

@@ -587,7 +587,7 @@ public final class SwarmHouse {
             rule.clear();
         }
 
-        /** Becomes what the other one is; the other one is empty then, and has the rows of this one. */
+        /** Becomes what the other one is; the other one gets the rows of this one, to be cleared and told anew. */
         void take(Field other) {
             Part[] oldParts = parts;
             Rule oldRule = rule;
@@ -599,7 +599,6 @@ public final class SwarmHouse {
             mass = other.mass;
             other.parts = oldParts;
             other.rule = oldRule;
-            other.clear();
         }
 
         /** A new PART of a kind; null if there is no room. */
@@ -1664,7 +1663,7 @@ public final class SwarmHouse {
         private boolean seenAlike(int one, int other) {
             for (int i = 0; i < notes.size && i < MOST_NOTES; i++) {
                 int cell = notes.cells[i];
-                if (notes.isSight(i) && tells[one][cell] != tells[other][cell]) {
+                if (notes.isSight(i) && cell >= 0 && cell < MOST_CELLS && tells[one][cell] != tells[other][cell]) {
                     return false;
                 }
             }

@@ -93,11 +93,12 @@ public final class PromisesTest {
   private static void fieldStays() {
     promise = 3;
     for (String bad : new String[] {"?", "disc 9 9;", "halo 5..6 1; use 0; guest 0 0 0 0 9 9", "use 0; bar 9 9 9; use 1;"}) {
-      SwarmHouse h = with("heap 0 0 100 1; halo 10..90 4; bar 0 1 7; use far < 20;");
+      SwarmHouse h = with("heap 0 0 100 1; halo 10..90 4; bar 0 1 7; use near < 1000;");
       h.length(10);
-      h.orbit(3, 0, 0, 0);
+      h.orbit(0, -30, 0, 0);
       h.orbit(300, 0, 0, 0);
-      h.stream(0, 1, 0, 0, 0, 0, 0, 0, 2, 1);
+      h.sight(0, 6, 1000, 1000);
+      h.strike(0);
       h.mass(70);
       long[] before = shown(h);
       due("FAULT of " + bad, tell(h, bad + "!"), -1);
@@ -125,10 +126,16 @@ public final class PromisesTest {
 
   /** What shows THE FIELD, its PARTS, its use, THE MASS and its SPAN. */
   private static long[] shown(SwarmHouse h) {
+    h.star(3, 0, 0, 2, 0);
+    long gone = h.go(5);
     return new long[] {
+      gone, h.starred(0), h.starred(3), h.go(-2), h.starred(1), h.starred(2),
+      h.back(0, 0), h.alike(0, 0) ? 1 : 0, h.share(0, 10, 0), h.share(0, 9, 1), h.weight(0, 0, 0), h.weight(0, 0, 1),
+      h.range(0, 0, 1, true), h.range(0, 1, 10, true), h.quarrel(1),
+      h.stream(0, 1, 0, 0, 400, 0, 0, 0, 3, 1), h.models(40, 4), h.models(40, 5), h.models(40, 6), h.models(40, 7),
       h.count(0), h.count(3), h.count(4), h.count(5), h.count(6), h.pull(5, 5, 8, 0), h.pull(5, 5, 8, 3), h.pull(5, 5, 8, 5),
       h.told(0, 7), h.told(1, 7), h.told(0, 2), h.at(1, 10, 0), h.tune(0, 1, 1) ? 1 : 0, h.tune(0, 9, 1) ? 1 : 0, h.fits(0),
-      h.models(40, 0), h.models(40, 1), h.models(40, 3), h.trail(), h.bent(40, 0)
+      h.models(40, 0), h.models(40, 1), h.models(40, 3), h.trail(), h.bent(40, 3072)
     };
   }
 

@@ -45,10 +45,15 @@ final class Edge {
     return h.field(text.length());
   }
 
-  static SwarmHouse with(String text) {
-    SwarmHouse h = new SwarmHouse();
+  /** A text that must be without a FAULT. */
+  static void set(SwarmHouse h, String text) {
     int parts = tell(h, text);
     if (parts < 0) due("field of " + text, parts, 0);
+  }
+
+  static SwarmHouse with(String text) {
+    SwarmHouse h = new SwarmHouse();
+    set(h, text);
     return h;
   }
 

@@ -255,7 +255,7 @@ public final class OrbitEdgesTest {
     h.star(9999, 0, -999, 0, 140);
     Edge.due("BACK till it is GONE", h.go(-240), 11);
     star(h, 20988, 0, -999, 0, 129);
-    Edge.tell(h, "guest 9999 0 99 0 99999 1;".repeat(8));
+    Edge.set(h, "guest 9999 0 99 0 99999 1;".repeat(8));
     Edge.due("a STEP", h.go(2), 1);
     // each guest is at 22770: 99999 times 1782 by 1782 times 1782 and 1 is 56
     star(h, 20437, 0, -551, 0, 130);
@@ -336,7 +336,7 @@ public final class OrbitEdgesTest {
       Edge.due("no STEP more", h.told(1, 0), 25);
       Edge.due("the last place", h.at(1, 25, w[0] != 0 ? 0 : 1), 20001 * (w[0] + w[1]));
       Edge.due("none behind it", h.at(1, 26, 0), NO);
-      Edge.tell(h, "use gone = 25 and sort = 3;");
+      Edge.set(h, "use gone = 25 and sort = 3;");
       Edge.due("gone of the one", h.told(0, 7), 0);
       Edge.due("gone of the other", h.told(1, 7), 1);
     }
@@ -663,7 +663,7 @@ public final class OrbitEdgesTest {
     h.length(20);
     h.orbit(5, 5, 0, 0);
     Edge.due("by the second it were so", h.tune(0, 1, 1), false);
-    Edge.tell(h, "bar 0 1 99; bar 0 1 5;");
+    Edge.set(h, "bar 0 1 99; bar 0 1 5;");
     Edge.due("by the first it is so", h.tune(0, 1, 1), true);
     Edge.says("promise 16", "Whether an ORBIT is in TUNE; false: no such ones, no bar.");
     Edge.due("9 to 9", h.tune(0, 9, 9), true);
@@ -674,9 +674,9 @@ public final class OrbitEdgesTest {
       Edge.due("q " + bad + " of 9", h.tune(0, 9, bad), false);
     }
     for (int orbit : new int[] {-1, 1, 6, NO, MAX}) Edge.due("ORBIT " + orbit, h.tune(orbit, 1, 1), false);
-    Edge.tell(h, "halo 0 1;");
+    Edge.set(h, "halo 0 1;");
     Edge.due("no bar", h.tune(0, 1, 1), false);
-    Edge.tell(h, "");
+    Edge.set(h, "");
     Edge.due("no PARTS", h.tune(0, 1, 1), false);
   }
 

@@ -1489,7 +1489,9 @@ public final class SwarmHouse {
 
         /** QUARREL as bits; 0 if there are FITS or no ORBIT is USED. */
         int fewestApart() {
-            Arrays.fill(together, false);
+            for (int set = 0; set < together.length; set++) {
+                together[set] = false;
+            }
             boolean more = begin();
             if (!more) {
                 return 0;

@@ -67,6 +67,7 @@ public final class ModelEdgesTest {
     many("99999..99999", 1, 1);
     Edge.due("MODELS without a SPAN", Edge.with("halo 9 1;").models(1, 0), 1);
     Edge.due("MODELS without a FIELD", new SwarmHouse().models(99999, 0), 1);
+    Edge.due("MODELS without a FIELD by 1", new SwarmHouse().models(1, 0), 1);
     models(eight("10..20"), 10, 2, 3, 10, 20);
     models(eight("10..19"), 10, 1, 1, 10, 10);
     models(eight("10..17"), 1, 8, 255, 10, 17);
@@ -200,11 +201,15 @@ public final class ModelEdgesTest {
     Edge.due("all nowhere, two of them", wide("0..1", 2, 8).models(1, 4), 0);
     // the first one stays at 10, which is beyond -10 .. 9, the other goes in: they differ in the last CELL alone
     models(wide("999..1000", 2, 10), 1, 2, 3, 999, 1000, 3, 0, 1, 3);
-    SwarmHouse low = Edge.with("halo 999..1000 90;");
-    low.length(10);
-    low.cells(2, 9);
-    low.orbit(-10, -1, 0, 0);
-    models(low, 1, 2, 3, 999, 1000, 0, 0, 1, 0);
+    models(lowest(), 1, 2, 3, 999, 1000, 0, 0, 1, 0);
+  }
+
+  private static SwarmHouse lowest() {
+    SwarmHouse h = Edge.with("halo 999..1000 90;");
+    h.length(10);
+    h.cells(2, 9);
+    h.orbit(-10, -1, 0, 0);
+    return h;
   }
 
   private static SwarmHouse wide(String span, int g, int r) {
@@ -267,6 +272,21 @@ public final class ModelEdgesTest {
     models(beyond, 2000, 2, 3, 0, 2000, 2, 0, 1, 2);
     beyond.sight(0, 2, 0, 1000);
     models(beyond, 2000, 2, 3, 0, 2000, 2, -1, -1, -1);
+    // one of CELL 0 does: by 1000 the ORBIT goes in from -10, with 9 STEPS there and 1 in CELL 1
+    SwarmHouse lowest = lowest();
+    lowest.sight(0, 2, 0, 1000);
+    models(lowest, 1, 2, 3, 999, 1000, 0, 0, 1, 0);
+    lowest.sight(0, 0, 0, 1000);
+    models(lowest, 1, 2, 3, 999, 1000, 0, -1, -1, -1);
+    // and one of CELL 63: by 1082 the ORBIT goes in from 10, 10, for D is 104 times 104; 63 has two places, 36 three
+    SwarmHouse highest = Edge.with("halo 1081..1082 90;");
+    highest.length(10);
+    highest.cells(8, 10);
+    highest.orbit(10, 10, 0, 0);
+    highest.sight(0, 62, 0, 1000);
+    models(highest, 1, 2, 3, 1081, 1082, 36, 0, 1, 36);
+    highest.sight(0, 63, 0, 1000);
+    models(highest, 1, 2, 3, 1081, 1082, 36, -1, -1, -1);
   }
 
   /** What is asked by the same pace again is as things are then, and behind refused calls as they were. */
@@ -313,6 +333,34 @@ public final class ModelEdgesTest {
     models(h, 1000, 8, 255);
     Edge.set(h, "halo 0..3000 90;");
     models(h, 1000, 4, 15);
+    // each call that changes something, between two by the pace 1
+    SwarmHouse one = eight("998..1001");
+    one.orbit(0, 0, 0, 0);
+    models(one, 1, 4, 15);
+    one.sight(0, 38, 150, 250);
+    models(one, 1, 4, 15);
+    one.portions(1);
+    models(one, 1, 4, 12);
+    one.portions(10);
+    models(one, 1, 4, 15);
+    one.strike(0);
+    one.sight(0, 38, 1000, 1000);
+    models(one, 1, 4, 3);
+    one.strike(2);
+    models(one, 1, 4, 15, 998, 1001, 36);
+    one.cells(8, 8);
+    one.sight(0, 38, 0, 0);
+    models(one, 1, 4, 15);
+    one.strike(4);
+    one.length(240);
+    one.sight(0, 39, 1, 1000);
+    models(one, 1, 4, 12);
+    one.sight(0, 63, 1, 1000);
+    models(one, 1, 4, 0);
+    one.orbit(7, 7, 0, 0);
+    models(one, 1, 4, 12);
+    Edge.set(one, "halo 1000..1001 90;");
+    models(one, 1, 2, 3);
   }
 
   // ---- promises 27 and 28 ----
@@ -521,6 +569,17 @@ public final class ModelEdgesTest {
     Edge.due("told the greatest number", h.bent(1000, Long.MAX_VALUE), 0);
     Edge.due("THE MASS stays", h.count(3), 4321);
     Edge.due("all 64 unlike", h.bent(99999, ~(1L << 38)), 0);
+    // behind 7 STEPS two stars are in two CELLS by 1000, and beyond them by 2000: both are unlike by one
+    SwarmHouse two = Edge.with("halo 1000..2000 90;");
+    two.cells(8, 10);
+    Edge.due("two CELLS by 1000", stream(two, 10, 0, 0, 0, -10, 10, 0, 0, 2, 7), 2);
+    Edge.due("which they are", two.trail(), 1L << 37 | 1L << 44);
+    two.mass(2000);
+    Edge.due("none by 2000", two.trail(), 0);
+    Edge.due("one too many is as one too few", two.bent(1000, 1L << 37), 1000);
+    Edge.due("told none", two.bent(1000, 0), 2000);
+    Edge.due("told another", two.bent(1000, 1), 2000);
+    Edge.due("told both", two.bent(1000, 1L << 37 | 1L << 44), 1000);
     Edge.says("terms 5", "masses as for MODELS");
     SwarmHouse last = Edge.with("halo 993..1001 90;");
     last.cells(8, 16);

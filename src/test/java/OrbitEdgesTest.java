@@ -479,6 +479,12 @@ public final class OrbitEdgesTest {
     used("(not (0 - 7)) = 0", 1);
     used("(2 < 3) + (3 > 2) + (2 <= 2) + (2 >= 2) + (2 = 2) + (2 <> 3) = 6", 1);
     used("(3 < 3) + (3 > 3) + (3 <= 2) + (2 >= 3) + (2 = 3) + (3 <> 3) = 0", 1);
+    String[] compared = {"<", "<=", "=", "<>", ">=", ">"};
+    int[][] by = {{1, 1, 0, 1, 0, 0}, {0, 1, 1, 0, 1, 0}, {0, 0, 0, 1, 1, 1}};
+    for (int i = 0; i < compared.length; i++) {
+      for (int n = 0; n < 3; n++) used((6 + n) + compared[i] + "7", by[n][i]);
+      used("(0 - 1) " + compared[i] + " 1", by[0][i]);
+    }
     used("1 or 1 / 0", 0);
     used("1 / 0 or 1", 0);
     used("not (0 and 1 / 0)", 0);
@@ -494,6 +500,29 @@ public final class OrbitEdgesTest {
     used("not (0 / 0)", 0);
     used("not (1 / (near - 25))", 0);
     used("not (1 / (near - 24)) or 1", 1);
+    // an ERROR of one ORBIT is none of another, nor of the same one in another FIELD
+    SwarmHouse two = Edge.with("use 1 / near + 1;");
+    two.length(10);
+    two.orbit(0, 0, 0, 0);
+    two.orbit(3, 4, 0, 0);
+    two.orbit(0, 0, 0, 0);
+    for (int i = 0; i < 3; i++) Edge.due("ORBIT " + i + " by an ERROR of ORBITS 0, 2", two.told(i, 7), i == 1 ? 1 : 0);
+    Edge.set(two, "use 1 / (near - 25) + 1;");
+    for (int i = 0; i < 3; i++) Edge.due("ORBIT " + i + " by an ERROR of ORBIT 1", two.told(i, 7), i == 1 ? 0 : 1);
+    Edge.says("promise 3", "THE FIELD from now on");
+    for (int i = 0; i < 6; i++) {
+      Edge.set(two, i % 3 == 0 ? "use 0;" : "use near = 25 or 0;");
+      Edge.due("use " + i + " of several", two.told(1, 7), i % 3 == 0 ? 0 : 1);
+    }
+    for (String bad : new String[] {"use 0; ?", "use 0", "use 0 or"}) {
+      Edge.due("a FAULT", Edge.tell(two, bad), -1);
+      Edge.due("the use before stays", two.told(1, 7), 1);
+      Edge.set(two, "use 7;");
+      Edge.due("a use behind a FAULT", two.told(1, 7), 1);
+      Edge.due("its KNOTS", two.count(6), 1);
+    }
+    Edge.set(two, "");
+    Edge.due("no use any more", two.told(0, 7), 1);
   }
 
   private static void values() {
@@ -626,6 +655,33 @@ public final class OrbitEdgesTest {
     Edge.due("none of either", none.alike(0, 2), false);
     Edge.due("none of the one", none.alike(0, 1), false);
     Edge.due("none of the other", none.alike(1, 0), false);
+    // RETURNS 0, 0, 0 of each
+    SwarmHouse three = Edge.with("halo 961 1;");
+    three.length(20);
+    three.orbit(0, 30, 0, 0);
+    three.orbit(0, 30, 0, 0);
+    Edge.due("three of three", three.alike(0, 1), true);
+    // RETURNS 11, -96, -6, -41 and -77, -118, -109: near are -96 and -41, and all of the other
+    halves("halo 30650 128;", 40, new int[] {-142, 48, 9, -7, 174, -112, 12, -3}, 4, 3, true);
+    // RETURNS 79, 36, 38 and -11, -21, 10: near are 36, 38, and 10, -11
+    halves("halo 18540 158;", 40, new int[] {119, 50, -10, 2, -42, 82, -15, 14}, 3, 3, true);
+    // RETURNS -25, 33, 1, -117, -196 and 52, 46, 55, 70: near are 33, 1, and all of the other
+    halves("halo 25325 186;", 60, new int[] {-103, -173, -11, 10, 157, 179, 16, 2}, 5, 4, false);
+    // RETURNS 8, 104, 273 and 102: near is 104, and all of the other
+    halves("halo 15847 26;", 40, new int[] {-79, -165, -5, -2, 93, 101, 3, 15}, 3, 1, false);
+    // RETURNS 250, 62 and 98: near is 62, and all of the other
+    halves("halo 57003 17;", 40, new int[] {-116, -35, 19, -14, 61, 179, 8, 18}, 2, 1, true);
+  }
+
+  private static void halves(String text, int length, int[] w, int first, int second, boolean want) {
+    SwarmHouse h = Edge.with(text);
+    h.length(length);
+    h.orbit(w[0], w[1], w[2], w[3]);
+    h.orbit(w[4], w[5], w[6], w[7]);
+    Edge.due("RETURNS of the one", h.told(0, 6), first);
+    Edge.due("RETURNS of the other", h.told(1, 6), second);
+    Edge.due("ALIKE in " + text, h.alike(0, 1), want);
+    Edge.due("ALIKE the other way in " + text, h.alike(1, 0), want);
   }
 
   private static void tune(int length, int turns, int period, int p, int q, boolean want) {
@@ -665,6 +721,8 @@ public final class OrbitEdgesTest {
     Edge.due("by the second it were so", h.tune(0, 1, 1), false);
     Edge.set(h, "bar 0 1 99; bar 0 1 5;");
     Edge.due("by the first it is so", h.tune(0, 1, 1), true);
+    Edge.set(h, "halo 0 1; disc 0 1; bar 0 1 99; bar 0 1 1;");
+    Edge.due("the first bar, not the first PART", h.tune(0, 1, 1), true);
     Edge.says("promise 16", "Whether an ORBIT is in TUNE; false: no such ones, no bar.");
     Edge.due("9 to 9", h.tune(0, 9, 9), true);
     for (int bad : new int[] {0, 10, -1, NO, MAX}) {
@@ -676,8 +734,14 @@ public final class OrbitEdgesTest {
     for (int orbit : new int[] {-1, 1, 6, NO, MAX}) Edge.due("ORBIT " + orbit, h.tune(orbit, 1, 1), false);
     Edge.set(h, "halo 0 1;");
     Edge.due("no bar", h.tune(0, 1, 1), false);
+    Edge.due("no bar, with much room", h.tune(0, 1, 9), false);
     Edge.set(h, "");
     Edge.due("no PARTS", h.tune(0, 1, 1), false);
+    Edge.due("no PARTS, with much room", h.tune(0, 1, 9), false);
+    h.length(10);
+    Edge.due("no PARTS, with LENGTH 10", h.tune(0, 1, 9), false);
+    Edge.set(h, "disc 0 1; bar 0 1 1;");
+    Edge.due("a bar, with LENGTH 10", h.tune(0, 1, 9), true);
   }
 
   public static void main(String[] args) {

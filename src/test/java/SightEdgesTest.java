@@ -65,6 +65,9 @@ public final class SightEdgesTest {
     for (int g : new int[] {2, 5, 8}) {
       for (int r : new int[] {8, 1000, 9998}) {
         column(g, r, -r - 1, -1);
+        for (int far : new int[] {-9999, -r - r / g - 1, r + 1, r + r / g, 9999}) {
+          if ((far < -r || far >= r) && far >= -9999 && far <= 9999) column(g, r, far, -1);
+        }
         column(g, r, -r, 0);
         column(g, r, r - 1, g - 1);
         column(g, r, r, -1);
@@ -559,6 +562,25 @@ public final class SightEdgesTest {
     ten.sight(0, 1, 1, 1000);
     Edge.due("the tenth alone", ten.quarrel(10), 512);
     Edge.due("eleven", ten.quarrel(11), -1);
+    SwarmHouse first = resting(2);
+    first.sight(0, 1, 1, 1000);
+    first.sight(0, 0, 500, 1000);
+    Edge.due("the first alone", first.quarrel(1), 1);
+    Edge.due("the first with another", first.quarrel(2), 1);
+    // what held together is not held against what changes then
+    SwarmHouse changed = resting(2);
+    changed.sight(0, 0, 400, 1000);
+    changed.sight(0, 15, 400, 1000);
+    Edge.due("together by six", changed.quarrel(2), 0);
+    changed.portions(1);
+    Edge.due("not by one", changed.quarrel(2), 3);
+    changed.portions(2);
+    Edge.due("by two", changed.quarrel(2), 0);
+    Edge.set(changed, "use near = 0;");
+    changed.cells(2, 8);
+    changed.orbit(0, 0, 0, 0);
+    Edge.due("each alone fails by another ORBIT", changed.quarrel(2), 1);
+    Edge.due("the first, too", changed.quarrel(1), 1);
   }
 
   private static void fewest() {

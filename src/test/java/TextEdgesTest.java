@@ -258,7 +258,10 @@ public final class TextEdgesTest {
     for (String name : NAMES) {
       Edge.fine("use " + name + ";", 0);
       Edge.fault("use " + name.substring(0, name.length() - 1) + ";", 1, 4);
-      Edge.fault("use " + name + "x;", 1, 4);
+      for (String letter : List.of("a", "x", "z")) {
+        Edge.fault("use " + name + letter + ";", 1, 4);
+        Edge.fault("use " + letter + name + ";", 1, 4);
+      }
       Edge.fault("use " + name.toUpperCase() + ";", 1, 4);
     }
     Edge.fine("heap0-0 1 1;disc1 1;use1and not2or(far)<near;", 2);

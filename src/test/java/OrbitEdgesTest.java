@@ -2,6 +2,9 @@
 public final class OrbitEdgesTest {
   private static final int NO = Edge.NO;
   private static final int MAX = Edge.MAX;
+  private static final String[] LINES = {
+    "heap 2 1 9000 5;", "disc 900 5;", "halo 800 3;", "halo 300..900 3;", "bar 1000 5 1;", "guest 2 1 3 -2 9000 5;"};
+  private static final String[] USES = {"use 1;", "use 0;", "use not 0;", "use not not 0;", "use near < 0 and far;", "use 1 / 0;", ""};
   private static final int[][] ENDS = {{9999, 0, 0, 0}, {-9999, 0, 0, 0}, {0, 9999, 0, 0}, {0, -9999, 0, 0}, {0, 0, 999, 0}, {0, 0, -999, 0}, {0, 0, 0, 999}, {0, 0, 0, -999}};
   private static final int[][] BEYOND = {
     {10000, 0, 0, 0}, {-10000, 0, 0, 0}, {0, 10000, 0, 0}, {0, -10000, 0, 0}, {0, 0, 1000, 0}, {0, 0, -1000, 0}, {0, 0, 0, 1000}, {0, 0, 0, -1000},
@@ -128,6 +131,48 @@ public final class OrbitEdgesTest {
     Edge.says("terms 1", "The PULL: the sums of all PARTS.");
     pull("disc 99999 1;".repeat(8), 0, 1, 0, 0, -8 * 99999);
     pull("heap 0 0 5 1;heap 0 0 5 1;", 1, 0, 0, -4, 0);
+    for (String one : LINES) {
+      for (String other : LINES) pullOfBoth(one, other);
+    }
+  }
+
+  /** Of two PARTS (in each order) the PULL is that of the one and that of the other, at all times of a bar. */
+  private static void pullOfBoth(String one, String other) {
+    SwarmHouse first = Edge.with(one.replace("300..", ""));
+    SwarmHouse second = Edge.with(other);
+    SwarmHouse both = Edge.with(one.replace("300..", "") + other);
+    for (int t = 0; t < 5; t++) {
+      for (int what = 0; what < 2; what++) {
+        Edge.due("PULL " + what + " of " + one + other + " at " + t, both.pull(7, 4, t, what), first.pull(7, 4, t, what) + second.pull(7, 4, t, what));
+      }
+    }
+  }
+
+  /** What a FIELD was before shows nowhere: a house that was told others answers as one that wasn't. */
+  private static void fieldAfterField() {
+    Edge.says("promise 3", "are THE FIELD from now on");
+    String[] texts = new String[LINES.length + USES.length];
+    System.arraycopy(LINES, 0, texts, 0, LINES.length);
+    System.arraycopy(USES, 0, texts, LINES.length, USES.length);
+    for (String first : texts) {
+      for (String second : texts) {
+        for (String third : texts) behindOthers(first, second, third);
+      }
+    }
+  }
+
+  private static void behindOthers(String first, String second, String third) {
+    SwarmHouse h = Edge.with(first);
+    Edge.set(h, second);
+    Edge.set(h, third);
+    SwarmHouse fresh = Edge.with(third);
+    String what = third + " behind " + first + " and " + second;
+    for (int i = 0; i < 6; i++) Edge.due("pull, what " + i + ", of " + what, h.pull(7, 4, 3, i), fresh.pull(7, 4, 3, i));
+    for (int i = 0; i < 7; i++) Edge.due("count " + i + " of " + what, h.count(i), fresh.count(i));
+    h.length(10);
+    fresh.length(10);
+    Edge.due("an ORBIT in " + what, h.orbit(3, 4, 0, 0), fresh.orbit(3, 4, 0, 0));
+    Edge.due("USED in " + what, h.told(0, 7), fresh.told(0, 7));
   }
 
   private static void bars() {
@@ -271,6 +316,23 @@ public final class OrbitEdgesTest {
     Edge.due("and one more", far.go(-1), 1);
     // x is - 94998: the first heap's PULL there is 1, and so is the halo's, r being above 65536
     star(far, -94998, 0, 94997, 0, 7);
+    Edge.says("terms 1", "r the greatest whole number whose square is not above x x + y y");
+    for (int y = 65534; y <= 65537; y++) backTo(y);
+  }
+
+  /** Back to that y, where D is y + 1 by y + 1: M y / D is 1 by a halo of y + 3, and 0 by one of y + 2. */
+  private static void backTo(int y) {
+    for (int more = 0; more < 2; more++) {
+      SwarmHouse h = Edge.with("disc " + (y - 1) + " 1;");
+      h.star(0, 1, 0, 0, 1);
+      Edge.due("a STEP out", h.go(1), 1);
+      Edge.set(h, "");
+      Edge.due("a STEP BACK by no PULL", h.go(-1), 1);
+      star(h, 0, 1, 0, 1 - y, 1);
+      Edge.set(h, "halo " + (y + 2 + more) + " 1;");
+      Edge.due("BACK to " + y, h.go(-1), 1);
+      star(h, 0, y, 0, 1 - y + more, 0);
+    }
   }
 
   // ---- promises 10 and 11 ----
@@ -312,6 +374,23 @@ public final class OrbitEdgesTest {
     Edge.due("ORBITS", h.count(1), 6);
     for (int i = 0; i < 6; i++) Edge.due("x of ORBIT " + i, h.at(i, 0, 0), i);
     Edge.due("x of ORBIT 6", h.at(6, 0, 0), NO);
+  }
+
+  private static void orbitPlaces(String text, int x, int y, int[][] want) {
+    SwarmHouse h = Edge.with(text);
+    h.orbit(x, y, 0, 0);
+    h.length(10);
+    for (int t = 0; t < want.length; t++) {
+      for (int what = 0; what < 4; what++) Edge.due("at(0, " + t + ", " + what + ") in " + text, h.at(0, t, what), want[t][what]);
+    }
+  }
+
+  private static void orbitsFrom0() {
+    Edge.says("terms 2", "each goes LENGTH STEPS (10 .. 240; 60 at first) from time 0 on");
+    // at 0 the guest is 1 ahead: 90 by 5; at 1 it is 82 ahead: 90 times 82 by 6728; at 2 it is 162 ahead
+    orbitPlaces("guest 1 0 99 0 90 2;", 0, 0, new int[][] {{0, 0, 0, 0}, {18, 0, 18, 0}, {37, 0, 19, 0}, {56, 0, 19, 0}, {75, 0, 19, 0}});
+    // the bar along y, slanted, along x, slanted: D is 10001, then 19604, 24405, 44740
+    orbitPlaces("bar 10000 1 1;", 0, 100, new int[][] {{0, 100, 0, 0}, {0, -99, 0, -199}, {-50, -148, -50, -49}, {-60, -137, -10, 11}, {1, -21, 61, 116}});
   }
 
   private static void orbitsOut() {
@@ -523,6 +602,16 @@ public final class OrbitEdgesTest {
     }
     Edge.set(two, "");
     Edge.due("no use any more", two.told(0, 7), 1);
+    Edge.says("terms 1", "a 49th KNOT");
+    // all 48 KNOTS are worked out, the last ones, too
+    used("not ".repeat(47) + "0", 1);
+    used("not ".repeat(47) + "1", 0);
+    used("not 1" + "+1".repeat(23), 0);
+    used("not 0" + "*1".repeat(23), 1);
+    used("1" + "+1".repeat(22) + "-23", 0);
+    used("1" + "+1".repeat(22) + "-22", 1);
+    used("not 1" + "-1".repeat(22) + "+21", 1);
+    used("not 1" + "-1".repeat(22) + "+20", 0);
   }
 
   private static void values() {
@@ -756,12 +845,14 @@ public final class OrbitEdgesTest {
     staysOut();
     lengths();
     orbits();
+    orbitsFrom0();
     orbitsOut();
     quarters();
     nearAndFar();
     sorts();
     toldEnds();
     uses();
+    fieldAfterField();
     values();
     places();
     backs();

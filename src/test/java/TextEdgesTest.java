@@ -332,6 +332,8 @@ public final class TextEdgesTest {
       Edge.fault("use 1" + first + ";", 1, 5 + first.length());
       Edge.fault("use 1 = 2 " + first + " 3;", 1, 10);
       Edge.fine("use (1 = 2) " + first + " 3;", 0);
+      Edge.fault("use (1 = 2 " + first + " 3);", 1, 11);
+      Edge.fault("use 1 = (2 " + first + " 3 = 4);", 1, 14 + first.length());
       Edge.fault("use 1 " + first + " not 2;", 1, 7 + first.length());
       Edge.fine("use 1 " + first + " (not 2);", 0);
     }

@@ -257,6 +257,15 @@ public final class ModelEdgesTest {
     models(h, 1000, 8, 132, 2000, 7000, 34, 2, 7, 34);
     h.strike(3);
     models(h, 1000, 8, 132, 2000, 7000, 34, -1, -1, -1);
+    // by 3000 alone there is no LIGHT of CELL 38: one that isn't KEPT is no TWIN of it, with or without a TELL of before
+    for (int asked = 0; asked < 2; asked++) {
+      SwarmHouse alone = eight("0..7000");
+      if (asked == 1) models(alone, 1000, 8, 255);
+      alone.sight(0, 38, 0, 0);
+      models(alone, 1000, 8, 8, 3000, 3000, -1, -1, -1, -1);
+      alone.strike(0);
+      models(alone, 1000, 8, 255, 0, 7000, 33, 0, 1, 36);
+    }
     // a STRIKE of NOTE 3 is no SIGHT of CELL 3
     SwarmHouse struck = eight("0..2000");
     struck.cells(2, 20000);

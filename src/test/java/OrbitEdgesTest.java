@@ -96,6 +96,12 @@ public final class OrbitEdgesTest {
     }
     Edge.due("THE MASS stays", h.count(3), 450);
     Edge.due("and its PULL", h.pull(1, 0, 0, 0), -50);
+    // at the times of a bar that stands along x, slanted, along y, slanted: -50, 0, then -75, 25, then -100, 0, then -75, -25
+    SwarmHouse bar = Edge.with("halo 90..900 2; bar 100 1 3;");
+    int[][] by = {{-150, 0, -60, 0}, {-175, 25, -85, 25}, {-200, 0, -110, 0}, {-175, -25, -85, -25}};
+    for (int t = 0; t <= 24; t++) {
+      for (int what = 2; what < 6; what++) Edge.due("what " + what + " with a bar at " + t, bar.pull(1, 0, t, what), by[t / 3 % 4][what - 2]);
+    }
     SwarmHouse one = Edge.with("halo 900..900 2;");
     for (int what = 0; what < 6; what += 2) Edge.due("a SPAN of one mass, what " + what, one.pull(1, 0, 0, what), -100);
     SwarmHouse none = Edge.with("halo 900 2;");
@@ -812,6 +818,10 @@ public final class OrbitEdgesTest {
     Edge.due("by the first it is so", h.tune(0, 1, 1), true);
     Edge.set(h, "halo 0 1; disc 0 1; bar 0 1 99; bar 0 1 1;");
     Edge.due("the first bar, not the first PART", h.tune(0, 1, 1), true);
+    Edge.set(h, "disc 0 1;".repeat(7) + "bar 0 1 99;");
+    Edge.due("the bar is the eighth PART", h.tune(0, 1, 1), true);
+    Edge.set(h, "bar 0 1 99;" + "bar 0 1 5;".repeat(7));
+    Edge.due("the first of eight bars", h.tune(0, 1, 1), true);
     Edge.says("promise 16", "Whether an ORBIT is in TUNE; false: no such ones, no bar.");
     Edge.due("9 to 9", h.tune(0, 9, 9), true);
     for (int bad : new int[] {0, 10, -1, NO, MAX}) {

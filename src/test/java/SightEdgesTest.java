@@ -513,6 +513,12 @@ public final class SightEdgesTest {
     Edge.due("the least of one that isn't USED", h.range(0, 0, 0, false), 0);
     Edge.due("the greatest of it", h.range(0, 0, 0, true), 0);
     Edge.due("the least of the one that is", h.range(0, 0, 2, false), 6);
+    SwarmHouse six = resting(6);
+    six.sight(0, 10, 500, 900);
+    for (int cell : new int[] {0, 15, 5, 3, 12}) Edge.due("of six the most LIGHT of CELL " + cell, six.range(1, 1, cell, true), 30);
+    Edge.due("of six the most LIGHT of the last one's CELL", six.range(1, 1, 10, true), 50);
+    Edge.due("the least of it", six.range(1, 1, 10, false), 30);
+    Edge.due("the greatest WEIGHT of the last one", six.range(1, 0, 5, true), 5);
     Edge.says("promise 24", "NONE: no such n, what, ORBIT, CELL (0 .. 63), or there are none.");
     Edge.due("there are none", h.range(1, 0, 2, true), -1);
     Edge.due("there is no LIGHT of none", h.range(1, 1, 5, false), -1);

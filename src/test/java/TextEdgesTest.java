@@ -92,6 +92,11 @@ public final class TextEdgesTest {
     Edge.due("it is empty behind a FAULT", h.field(1), -2);
     Edge.feed(h, "           disc 1 1;");
     Edge.due("all of its bytes", h.field(20), 1);
+    for (String much : new String[] {"disc 100000 1;", "use 100000;", "heap 10000 1 1 1;"}) {
+      Edge.due("a number that is too much", Edge.tell(h, much), -1);
+      Edge.due("it is no number of the next text", Edge.tell(h, "use near;"), 0);
+      Edge.due("its FAULT", h.fault(0), 0);
+    }
   }
 
   private static void fieldRefused() {
@@ -322,6 +327,12 @@ public final class TextEdgesTest {
     Edge.fine("use not not 1 or not 2 and 3 or 4;", 0);
     Edge.fault("use 1 or or 2;", 1, 9);
     Edge.fault("use or 1;", 1, 4);
+    for (String sign : new String[] {"or", "and", "+", "-", "*", "/", "<", "<=", "=", "<>", ">=", ">"}) {
+      Edge.fault("use " + sign + " " + sign + " 1;", 1, 4);
+      Edge.fault("use " + sign + " 1 " + sign + " " + sign + " 1;", 1, 4);
+      Edge.fault("use not " + sign + " or " + sign + " 1;", 1, 8);
+      Edge.fault("use (" + sign + " 1) and " + sign + " 1;", 1, 5);
+    }
     Edge.fault("use and 1;", 1, 4);
     Edge.fault("use 1 and;", 1, 9);
     Edge.fault("use not;", 1, 7);
